@@ -23,6 +23,7 @@ public final class RulesTried {
     private static final int ANY_ACT = 4;
     private static final int BY_FIRST = 0;
     private static final int BY_LAST = 1;
+    private static final int BY_STOP = 2;
     private static final int BY_LET = 3;
 
     private final Tape tape;
@@ -852,19 +853,20 @@ public final class RulesTried {
     private static final class Rules {
         private final int how;
         private final Line[] lines;
+        // The numbers of the LINES such that the first of them that HOLDS decides.
         private final int[] order;
 
         Rules(int how, Line[] lines) {
             this.how = how;
             this.lines = lines;
-            order = new int[lines.length];
-            fillOrder(how, (1 << lines.length) - 1, letsOf(lines), order);
+            order = orderOf(how, (1 << lines.length) - 1, letsOf(lines), lines.length);
         }
 
         Line lineAt(int number) {
             return isIn(number, lines.length) ? lines[number] : null;
         }
 
+        /** The LINES that let, as a set of bits. */
         int lets() {
             return letsOf(lines);
         }
@@ -881,33 +883,24 @@ public final class RulesTried {
             return new Rules(how, kept);
         }
 
-        /** The kept LINES into a row such that the first of them that HOLDS decides: how many they are. */
-        static int fillOrder(int how, int kept, int lets, int[] row) {
+        private static int[] orderOf(int how, int all, int lets, int size) {
+            int[] row = new int[Math.max(0, size)];
             if (how == BY_LAST) {
-                return addFromLast(kept, row);
+                for (int i = 0; i < row.length; i++) {
+                    row[i] = row.length - 1 - i;
+                }
+                return row;
             }
-            if (how == BY_FIRST) {
-                return addFromFirst(kept, row, 0);
-            }
-            int ahead = how == BY_LET ? kept & lets : kept & ~lets;
-            return addFromFirst(kept & ~ahead, row, addFromFirst(ahead, row, 0));
+            int ahead = how == BY_FIRST ? all : how == BY_LET ? lets : all & ~lets;
+            addLines(all & ~ahead, row, addLines(ahead, row, 0));
+            return row;
         }
 
-        private static int addFromFirst(int set, int[] row, int filled) {
+        /** How many are filled then. */
+        private static int addLines(int set, int[] row, int filled) {
             int next = filled;
             for (int i = 0; i < LINES; i++) {
                 if (hasBit(set, i) && isIn(next, row.length)) {
-                    row[next] = i;
-                    next++;
-                }
-            }
-            return next;
-        }
-
-        private static int addFromLast(int set, int[] row) {
-            int next = 0;
-            for (int i = LINES - 1; i >= 0; i--) {
-                if (hasBit(set, i) && next < row.length) {
                     row[next] = i;
                     next++;
                 }
@@ -1266,8 +1259,7 @@ public final class RulesTried {
     private static final class Search {
         private final int[] held;
         private final int[] wanted;
-        private final int[] order;
-        private int marked;
+        private int size;
         private int how;
         private int lineCount;
         private int lets;
@@ -1277,21 +1269,26 @@ public final class RulesTried {
         Search() {
             held = new int[ASKS];
             wanted = new int[ASKS];
-            order = new int[LINES];
         }
 
         void start(Rules rules) {
             how = rules.how;
             lineCount = rules.lines.length;
             lets = rules.lets();
-            marked = 0;
+            size = 0;
         }
 
+        /** Asks for which the same LINES HOLD are decided alike, so one of those MARKED alike stands for all. */
         void want(int holding, int mark) {
-            if (marked < ASKS) {
-                held[marked] = holding;
-                wanted[marked] = mark;
-                marked++;
+            for (int i = 0; i < size && i < ASKS; i++) {
+                if (held[i] == holding && wanted[i] == mark) {
+                    return;
+                }
+            }
+            if (size < ASKS) {
+                held[size] = holding;
+                wanted[size] = mark;
+                size++;
             }
         }
 
@@ -1329,24 +1326,27 @@ public final class RulesTried {
         }
 
         private boolean allAsMarked() {
-            int kept = (1 << lineCount) - 1 & ~left;
             int letsNow = lets ^ turned;
-            int size = Rules.fillOrder(how, kept, letsNow, order);
-            for (int i = 0; i < marked && i < ASKS; i++) {
-                if (decided(held[i], size, letsNow) != wanted[i]) {
+            for (int i = 0; i < size && i < ASKS; i++) {
+                if (isLet(held[i] & ~left, letsNow) != (wanted[i] == 1)) {
                     return false;
                 }
             }
             return true;
         }
 
-        private int decided(int holding, int size, int letsNow) {
-            for (int i = 0; i < size && i < order.length; i++) {
-                if (hasBit(holding, order[i])) {
-                    return letsNow >>> order[i] & 1;
-                }
+        // The order of LINES that Trial walks, told in bits: this stands in the innermost of four loops.
+        private boolean isLet(int holding, int letsNow) {
+            switch (how) {
+                case BY_LAST:
+                    return (Integer.highestOneBit(holding) & letsNow) != 0;
+                case BY_STOP:
+                    return holding != 0 && (holding & ~letsNow) == 0;
+                case BY_LET:
+                    return (holding & letsNow) != 0;
+                default:
+                    return (Integer.lowestOneBit(holding) & letsNow) != 0;
             }
-            return 0;
         }
     }
 

@@ -122,6 +122,7 @@ public final class TextTest {
         stops("let all any all when ((((((#1=1))))));");
         stops("let all any all when (((((( #\0;");
         stops("let all any all when ((((((#");
+        stops("let all any all when ((((((#))))));");
         stops("let all any all when (((((( \n#");
         stops("let all any all when owner or not((((((#owner))))));");
         stops("let all any all when (owner) and ((((((#owner))))));");
