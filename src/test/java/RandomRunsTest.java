@@ -2,7 +2,7 @@ import java.util.Random;
 
 /** Runs of calls drawn from fixed seeds, on the class and on PlainBench: every answer must be the same. */
 public final class RandomRunsTest {
-    private static final int RUNS = 400;
+    private static final int RUNS = 200;
     private static final int CALLS = 512;
     private static final int[] ODD = {Integer.MIN_VALUE, Integer.MAX_VALUE, -2, -1, 16, 200, 256, 600, -600};
 
@@ -39,7 +39,7 @@ public final class RandomRunsTest {
         StringBuilder text = new StringBuilder();
         int parts = 1 + random.nextInt(3);
         for (int i = 0; i < parts; i++) {
-            text.append(i == 0 ? "" : pick(" and ", " or ", "\nor ", ")and ".substring(1)));
+            text.append(i == 0 ? "" : pick(" and ", " and ", " or ", "\nor "));
             text.append(random.nextInt(4) == 0 ? "not " : "");
             int kind = random.nextInt(6);
             if (kind == 0 && depth < 7) {
@@ -98,14 +98,13 @@ public final class RandomRunsTest {
         same(call, got ? 1 : 0, want ? 1 : 0);
     }
 
-    private void putRules() {
+    private void putRules(int slot) {
         String text = text();
         for (int from = 0; from < text.length(); from += 20) {
             int[] n = Checks.twenty(text, from);
             same("feed", x.feed(n[0], n[1], n[2], n[3], n[4]), y.feed(n));
         }
         same("end", x.end(text.length()), y.end(text.length()));
-        int slot = number(4);
         same("rules(" + slot + ") of '" + text + "'", x.rules(slot), y.rules(slot));
         same("fault(0) of '" + text + "'", x.fault(0), y.fault(0));
         same("fault(1) of '" + text + "'", x.fault(1), y.fault(1));
@@ -126,7 +125,7 @@ public final class RandomRunsTest {
             case 5 -> same("mark", x.mark(ask, b % 3 - 1), y.mark(ask, b % 3 - 1));
             case 6 -> same("image", x.image(b % 4), y.image(b % 4));
             default -> {
-                if (random.nextInt(4) == 0) {
+                if (random.nextInt(12) == 0) {
                     same("again", x.again(b % 4), y.again(b % 4));
                 }
             }
@@ -198,11 +197,15 @@ public final class RandomRunsTest {
             int owner = number(people);
             same("thing", x.thing(kind, level, owner), y.thing(kind, level, owner));
         }
+        for (int slot = 0; slot < 3; slot++) {
+            putRules(slot);
+        }
+        same("image", x.image(0), y.image(0));
         for (int i = 0; i < CALLS && calls < CALLS; i++) {
-            int draw = random.nextInt(20);
+            int draw = random.nextInt(30);
             if (draw == 0) {
-                putRules();
-            } else if (draw < 9) {
+                putRules(number(4));
+            } else if (draw < 13) {
                 tellCall();
             } else {
                 askCall();
