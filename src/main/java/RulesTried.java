@@ -548,8 +548,8 @@ public final class RulesTried {
         private static final int OPEN_AT_MOST = 6;
 
         // The highest NUMBER behind each word of WHO and of WHAT; NONE: no NUMBER follows.
-        private static final int[] TOP_OF_WHO = {NONE, 7, PEOPLE - 1, NONE, TOP_LEVEL};
-        private static final int[] TOP_OF_WHAT = {NONE, TOP_KIND, THINGS - 1, TOP_LEVEL};
+        private static final int[] TOP_OF_WHO = {NONE, 7, 15, NONE, 5};
+        private static final int[] TOP_OF_WHAT = {NONE, 7, 15, 5};
 
         private final Tokens tokens;
         private final Line[] lines;
