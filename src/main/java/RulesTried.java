@@ -413,7 +413,10 @@ public final class RulesTried {
         }
     }
 
-    /** The tape taken apart into tokens, one at a time. A sign's kind is its own byte. */
+    /**
+     * The tape taken apart into tokens, all of them ahead of the reading: done token by token from within the reading,
+     * the calls would stand too deep. A sign's kind is its own byte.
+     */
     private static final class Tokens {
         static final int END = 0;
         static final int NUMBER = 1;
@@ -449,74 +452,105 @@ public final class RulesTried {
         private static final int DIGITS = 3;
 
         private final Tape tape;
+        private final int[] kinds;
+        private final int[] numbers;
+        private final int[] places;
+        private int size;
+        private int next;
+        // Of the token at hand.
         private int kind;
         private int number;
         private int place;
-        private int next;
 
         Tokens(Tape tape) {
             this.tape = tape;
+            kinds = new int[TAPE_BYTES + 1];
+            numbers = new int[TAPE_BYTES + 1];
+            places = new int[TAPE_BYTES + 1];
+            size = 0;
+            next = 0;
             kind = END;
             number = 0;
             place = 0;
-            next = 0;
         }
 
-        void start() {
+        void takeApart() {
+            size = 0;
+            int behind = 0;
+            for (int from = 0; from < tape.length; from++) {
+                if (from >= behind && !isBlank(tape.at(from))) {
+                    behind = addToken(from);
+                }
+            }
+            add(END, 0, tape.length);
             next = 0;
             step();
         }
 
         void step() {
-            while (next < tape.length && isBlank(tape.at(next))) {
-                next++;
-            }
-            place = next;
-            int first = tape.at(next);
-            if (first == NONE) {
-                kind = END;
-            } else if (isLetter(first)) {
-                takeLetters();
-                kind = kindOfWord();
-            } else if (isDigit(first)) {
-                takeDigits();
-                kind = next - place > DIGITS ? WRONG : NUMBER;
-            } else {
-                kind = isSign(first) ? first : WRONG;
+            if (next >= 0 && next < size && next < kinds.length) {
+                kind = kinds[next];
+                number = numbers[next];
+                place = places[next];
                 next++;
             }
         }
 
-        private void takeLetters() {
-            while (next < tape.length && isLetter(tape.at(next))) {
-                next++;
+        private void add(int kindFound, int numberFound, int from) {
+            if (isIn(size, kinds.length)) {
+                kinds[size] = kindFound;
+                numbers[size] = numberFound;
+                places[size] = from;
+                size++;
             }
         }
 
-        private void takeDigits() {
-            number = 0;
-            while (next < tape.length && isDigit(tape.at(next))) {
-                if (next - place < DIGITS) {
-                    number = number * 10 + tape.at(next) - '0';
+        /** The place behind the token that begins here. */
+        private int addToken(int from) {
+            int first = tape.at(from);
+            int to = from + 1;
+            if (isLetter(first)) {
+                while (to < tape.length && isLetter(tape.at(to))) {
+                    to++;
                 }
-                next++;
+                add(kindOfWord(from, to), 0, from);
+            } else if (isDigit(first)) {
+                while (to < tape.length && isDigit(tape.at(to))) {
+                    to++;
+                }
+                addNumber(from, to);
+            } else {
+                add(isSign(first) ? first : WRONG, 0, from);
             }
+            return to;
         }
 
-        private int kindOfWord() {
+        private void addNumber(int from, int to) {
+            if (to - from > DIGITS) {
+                add(WRONG, 0, from);
+                return;
+            }
+            int found = 0;
+            for (int i = from; i < to; i++) {
+                found = found * 10 + tape.at(i) - '0';
+            }
+            add(NUMBER, found, from);
+        }
+
+        private int kindOfWord(int from, int to) {
             int found = BY;
-            int compared = place;
+            int compared = from;
             boolean alike = true;
             for (int i = 0; i < WORDS.length(); i++) {
                 char sign = WORDS.charAt(i);
                 if (sign != ' ') {
                     alike = alike && tape.at(compared) == sign;
                     compared++;
-                } else if (alike && compared == next) {
+                } else if (alike && compared == to) {
                     return found;
                 } else {
                     found++;
-                    compared = place;
+                    compared = from;
                     alike = true;
                 }
             }
@@ -574,7 +608,7 @@ public final class RulesTried {
             fault = 0;
             faultPlace = NONE;
             lineCount = 0;
-            tokens.start();
+            tokens.takeApart();
             int how = readHow();
             for (int i = 0; i < TAPE_BYTES && startsLine(); i++) {
                 readLine();
@@ -730,7 +764,9 @@ public final class RulesTried {
         }
 
         private void needs(int kind) {
-            if (!takes(kind)) {
+            if (tokens.kind == kind) {
+                tokens.step();
+            } else {
                 refuse();
             }
         }
@@ -867,7 +903,7 @@ public final class RulesTried {
         }
 
         /** The LINES that let, as a set of bits. */
-        int lets() {
+        int letSet() {
             return letsOf(lines);
         }
 
@@ -1274,7 +1310,7 @@ public final class RulesTried {
         void start(Rules rules) {
             how = rules.how;
             lineCount = rules.lines.length;
-            lets = rules.lets();
+            lets = rules.letSet();
             size = 0;
         }
 

@@ -5,7 +5,11 @@ import java.lang.reflect.Method;
 import java.lang.reflect.Modifier;
 import java.nio.file.Files;
 import java.nio.file.Path;
+import java.util.ArrayList;
+import java.util.List;
+import java.util.Map;
 import java.util.Set;
+import java.util.TreeMap;
 import java.util.TreeSet;
 import java.util.regex.Matcher;
 import java.util.regex.Pattern;
@@ -101,10 +105,51 @@ public final class LanguageTest {
         }
     }
 
+    /** Which methods' names stand in a method's body; methods of one name count as one, which can only tell too many. */
+    private static Map<String, Set<String>> calls() throws IOException {
+        String code = Files.readString(SOURCE).replaceAll("(?s)/\\*.*?\\*/", "").replaceAll("//[^\n]*", "");
+        Map<String, Set<String>> calls = new TreeMap<>();
+        Matcher methods = Pattern.compile("(?m)^( {4}| {8})(?! )[^\n;=]*?(\\w+)\\([^\n;=]*\\) \\{\n((?s:.*?))\n\\1\\}").matcher(code);
+        while (methods.find()) {
+            Set<String> called = calls.computeIfAbsent(methods.group(2), name -> new TreeSet<>());
+            Matcher names = Pattern.compile("(\\w+)\\(").matcher(methods.group(3));
+            while (names.find()) {
+                called.add(names.group(1));
+            }
+        }
+        return calls;
+    }
+
+    /** The longest row of calls from here on, none of them twice. */
+    private static List<String> deepest(String name, List<String> open, Map<String, Set<String>> calls) {
+        if (!calls.containsKey(name) || open.contains(name)) {
+            return open;
+        }
+        List<String> now = new ArrayList<>(open);
+        now.add(name);
+        List<String> longest = now;
+        for (String called : calls.get(name)) {
+            List<String> row = deepest(called, now, calls);
+            longest = row.size() > longest.size() ? row : longest;
+        }
+        return longest;
+    }
+
+    private static void depth() throws IOException {
+        Map<String, Set<String>> calls = calls();
+        for (String method : FACE) {
+            String name = method.substring(method.indexOf(' ') + 1, method.indexOf('('));
+            List<String> row = deepest(name, List.of(), calls);
+            Checks.due("found: " + name, row.isEmpty(), false);
+            Checks.due("at most eight deep: " + row, row.size() <= 8, true);
+        }
+    }
+
     public static void main(String[] args) throws IOException {
         face();
         classesInside();
         source();
+        depth();
         Checks.finish();
     }
 }
