@@ -1,25 +1,15 @@
 /** The language of lines: what is read, and each FAULT with its place. */
 public final class TextTest {
     private static void reads(String text, int lines) {
-        RulesTried x = new RulesTried();
-        Checks.due("rules of '" + text + "'", Checks.rules(x, 0, text), lines);
-        Checks.due("fault of '" + text + "'", x.fault(0), 0);
-        Checks.due("place of '" + text + "'", x.fault(1), RulesTried.NONE);
-        Checks.due("lines of '" + text + "'", x.count(4), lines);
+        Checks.reads(text, lines);
     }
 
     private static void faults(String text, int fault, int place) {
-        RulesTried x = new RulesTried();
-        Checks.due("rules of '" + text + "'", Checks.rules(x, 0, text), RulesTried.NONE);
-        Checks.due("fault of '" + text + "'", x.fault(0), fault);
-        Checks.due("place of '" + text + "'", x.fault(1), place);
-        Checks.due("lines of '" + text + "'", x.count(4), 0);
+        Checks.faults(text, fault, place);
     }
 
-    /** The text is at fault with 1 where the sign # stands in it, which is taken out. */
     private static void stops(String marked) {
-        int place = marked.indexOf('#');
-        faults(marked.substring(0, place) + marked.substring(place + 1), 1, place);
+        Checks.stops(marked);
     }
 
     private static void wellFormed() {
