@@ -221,10 +221,10 @@ public final class HoldsEdgesTest {
         }
     }
 
-    /** Each sign between NUMBERS, and between the CLEARANCE 2 of one in group 2 and a THING of KIND 5, LEVEL 5. */
+    /** Each sign between NUMBERS, and between the CLEARANCE 2 of one in group 2 and a THING of KIND 3, LEVEL 3. */
     private static void othersCompared() {
-        String[] words = {"groups", "1", "clear", "2", "kind", "level", "5"};
-        int[] values = {1, 1, 2, 2, 5, 5, 5};
+        String[] words = {"groups", "1", "clear", "2", "kind", "level", "3"};
+        int[] values = {1, 1, 2, 2, 3, 3, 3};
         for (int left = 0; left < words.length; left++) {
             for (int right = 0; right < words.length; right++) {
                 RulesTried x = eight();
@@ -234,8 +234,8 @@ public final class HoldsEdgesTest {
                 int order = Integer.compare(values[left], values[right]);
                 for (int sign = 0; sign < 3; sign++) {
                     String call = words[left] + " to " + words[right] + " by sign " + sign;
-                    due(call + " at 0", x.decide(sign, 2, 0, 5, 0, false), order == sign - 1 ? 1 : 0);
-                    due(call + " at 23", x.decide(sign, 2, 0, 5, 23, false), order == sign - 1 ? 1 : 0);
+                    due(call + " at 0", x.decide(sign, 2, 0, 3, 0, false), order == sign - 1 ? 1 : 0);
+                    due(call + " at 23", x.decide(sign, 2, 0, 3, 23, false), order == sign - 1 ? 1 : 0);
                 }
             }
         }

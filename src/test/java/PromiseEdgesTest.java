@@ -475,6 +475,36 @@ public final class PromiseEdgesTest {
         due("behind its lines", empty.decides(0, 1), NONE);
     }
 
+    /** The same as decide() tells, of each ASK: people, ACTS, THINGS and HOURS all count. */
+    private static void bookAsDecided() {
+        for (String by : new String[] {"", "by last;", "by stop;", "by let;"}) {
+            RulesTried x = bench();
+            rules(x, 0, by + "let one 0 any thing 0 when hour<9;stop all write all;let all any thing 1 when hour>8;", 3);
+            rules(x, 1, by + "stop all any thing 1 when hour=3;let one 1 read all;", 2);
+            int[] decided = new int[3];
+            int let = 0;
+            int lost = 0;
+            for (int i = 0; i < 96; i++) {
+                int ask = x.ask(i % 2, i / 2 % 4, i / 8 % 2, i / 4);
+                int line = x.decide(0, i % 2, i / 2 % 4, i / 8 % 2, i / 4, true);
+                int zero = line == 0 || line == 2 ? 1 : 0;
+                if (line != NONE) {
+                    decided[line]++;
+                }
+                let += zero;
+                if (zero > x.decide(1, i % 2, i / 2 % 4, i / 8 % 2, i / 4, false)) {
+                    due(by + " lost " + lost, x.lost(0, 1, lost), ask);
+                    lost++;
+                }
+            }
+            due(by + " lost no more", x.lost(0, 1, lost), NONE);
+            due(by + " tried", x.tried(0), let);
+            for (int line = 0; line < 3; line++) {
+                due(by + " decides " + line, x.decides(0, line), decided[line]);
+            }
+        }
+    }
+
     private static void lostOrNone() {
         RulesTried x = full();
         rules(x, 0, LET_ALL, 1);
@@ -505,6 +535,9 @@ public final class PromiseEdgesTest {
         rules(x, 1, "by last;let one 0 read thing 0 when hour=0;let one 2 any all;", 2);
         due("the very first that could be", x.idle(1, 0), false);
         due("of one who is not there", x.idle(1, 1), true);
+        rules(x, 2, "let all any all when hour<12;stop all any all when hour>5;let all any all;", 3);
+        due("behind two that leave nothing between them", x.idle(2, 2), true);
+        due("of what the first leaves", x.idle(2, 1), false);
         x.person(0, 0);
         due("of one who is there now", x.idle(1, 1), false);
         for (int line : Checks.outside(2)) {
@@ -513,7 +546,7 @@ public final class PromiseEdgesTest {
         for (int slot : Checks.outside(3)) {
             due("idle(" + slot + ", 0)", x.idle(slot, 0), false);
         }
-        due("without rules", x.idle(2, 0), false);
+        due("without rules", x.idle(3, 0), false);
     }
 
     private static void idleIfNothingCouldBe() {
@@ -548,7 +581,7 @@ public final class PromiseEdgesTest {
     private static void moreAndUnlikeAsDecided() {
         for (String by : new String[] {"", "by last;", "by stop;", "by let;"}) {
             RulesTried x = bench();
-            rules(x, 0, by + "let one 0 any all;stop all any all when hour>12;let all any level 5;", 3);
+            rules(x, 0, by + "let one 0 any all when hour<5;stop all any all when hour>12;let all any level 5;let one 0 any all when hour>20;", 4);
             rules(x, 1, by + "stop all any thing 1;let all any all when hour=13 or hour=11;", 2);
             int more = 0;
             int fewer = 0;
@@ -869,7 +902,19 @@ public final class PromiseEdgesTest {
             x.thing(0, 0, i);
         }
         x.image(2);
+        for (int i = 0; i < 16; i++) {
+            x.moves(i, 255, 5);
+            x.gives(i, 0, 5);
+        }
+        for (int i = 190; i < 200; i++) {
+            x.mark(i, 1);
+        }
         due("a full bench", x.again(2), true);
+        for (int i = 2; i < 16; i++) {
+            personsRow(x, i, i, 0);
+            thingsRow(x, i, 0, 0, i);
+        }
+        due("no marks", x.count(3), 0);
         due("people", x.count(0), 16);
         due("things", x.count(1), 16);
         due("asks", x.count(2), 200);
@@ -954,6 +999,8 @@ public final class PromiseEdgesTest {
     private static void triedPromises() {
         Checks.sentence("15: NONE: there is no such SLOT.", PromiseEdgesTest::triedOrNone);
         Checks.sentence("16: NONE if there is none such.", PromiseEdgesTest::decidesOrNone);
+        Checks.sentence("15 to 17: how many ASKS are let; a LINE of a SLOT decides; that SLOT a lets and SLOT b stops",
+            PromiseEdgesTest::bookAsDecided);
         Checks.sentence("17: NONE if there is none such (SLOT, too).", PromiseEdgesTest::lostOrNone);
         Checks.sentence("18: False, too, if there is none such.", PromiseEdgesTest::idleOrNone);
         Checks.sentence("18: no ask that COULD BE is decided by it.", PromiseEdgesTest::idleIfNothingCouldBe);

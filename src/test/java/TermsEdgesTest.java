@@ -329,6 +329,27 @@ public final class TermsEdgesTest {
         due("marked no more", x.mend(0), 0);
     }
 
+    /** 192 asks for each of which other LINES HOLD, and one more, which alone is not decided as it is MARKED. */
+    private static void eachOfManyUnlikeAsks() {
+        RulesTried x = new RulesTried();
+        for (int i = 0; i < 16; i++) {
+            x.person(i, 0);
+        }
+        for (int level = 0; level < 6; level++) {
+            x.thing(0, level, 0);
+        }
+        rules(x, 0, "let group 0 read all;let group 1 read all;let group 2 read all;let group 3 read all;let all read level 1;"
+            + "let all read level 2;let all read level 3;let all read level 4;let all read level 5;let all read all when hour<12;"
+            + "let all drop all;", 11);
+        for (int i = 0; i < 192; i++) {
+            x.mark(x.ask(i % 16, 0, i / 16 % 6, i < 96 ? 11 : 12), i == 96 ? 0 : 1);
+        }
+        due("all but none", x.mend(0), 0);
+        x.mark(x.ask(0, 3, 0, 0), 0);
+        due("the last", x.mend(0), 1);
+        change(x, 0, 10, 0);
+    }
+
     private static void markedAsksOfNoLine() {
         RulesTried x = bench(1, 1);
         x.mark(x.ask(0, 0, 0, 0), 0);
@@ -450,6 +471,7 @@ public final class TermsEdgesTest {
         Checks.sentence("at most 3", TermsEdgesTest::atMostThree);
         Checks.sentence("each of another LINE", TermsEdgesTest::eachOfAnotherLine);
         Checks.sentence("by which each MARKED ASK of THE BOOK is decided as it is MARKED", TermsEdgesTest::eachMarkedAsk);
+        Checks.sentence("by which each MARKED ASK of THE BOOK is decided as it is MARKED, of many too", TermsEdgesTest::eachOfManyUnlikeAsks);
         Checks.sentence("by which each MARKED ASK of THE BOOK is decided as it is MARKED, by no LINE too", TermsEdgesTest::markedAsksOfNoLine);
         Checks.sentence("of several as few that whose first LINE (of those that are changed, by numbers) is the least",
             TermsEdgesTest::leastFirstLine);

@@ -153,6 +153,7 @@ public final class TextEdgesTest {
         stops("by #;");
         stops("by #owner;");
         stops("by #any;");
+        stops("by #all;");
         stops("by let#");
         stops("by let #let;");
         stops("by let;#by let;");
@@ -239,6 +240,11 @@ public final class TextEdgesTest {
     private static void oneOrMoreJoined() {
         when("1=1", true);
         when("1=2 or 1=2", false);
+        when("1=1 or 1=1", true);
+        when("1=1 or 1=1 or 1=1", true);
+        when("1=2 or 1=1", true);
+        when("1=1 and 1=1", true);
+        when("1=2 and 1=2", false);
         when("1=2 or 1=2 or 1=1", true);
         when("1=1 and 1=1 and 1=2", false);
         when("1=1 or 1=1 and 1=2", true);
@@ -283,7 +289,9 @@ public final class TextEdgesTest {
         stops(WHEN + "(1#)=1;");
         stops(WHEN + "1=#(1);");
         stops(WHEN + "(owner)#=1;");
-        stops(WHEN + "1 #or 2=2;");
+        for (String word : new String[] {"or", "and", "not", "by", "first", "stop", "let", "all", "owner", "clear", "level", "2", "("}) {
+            stops(WHEN + "1 #" + word + " 2=2;");
+        }
     }
 
     private static void wordsOfT() {
