@@ -620,7 +620,7 @@ public final class RulesTried {
         }
 
         private Line[] linesRead() {
-            Line[] found = new Line[lineCount];
+            Line[] found = new Line[Math.max(0, lineCount)];
             for (int i = 0; i < lineCount && i < lines.length; i++) {
                 found[i] = lines[i];
             }
@@ -656,7 +656,7 @@ public final class RulesTried {
             }
             needs(Tokens.SEMICOLON);
             if (lineCount < LINES) {
-                int[] when = Arrays.copyOf(steps, stepCount);
+                int[] when = Arrays.copyOf(steps, Math.max(0, stepCount));
                 lines[lineCount] = new Line(let, who, whoNumber, act, what, whatNumber, when);
                 lineCount++;
             }
@@ -965,7 +965,7 @@ public final class RulesTried {
         Table(int columns, int limit) {
             this.columns = columns;
             this.limit = limit;
-            cells = new int[columns * limit];
+            cells = new int[Math.max(0, columns * limit)];
             size = 0;
         }
 
